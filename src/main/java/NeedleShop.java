@@ -39,10 +39,8 @@ public final class NeedleShop {
     private static final int ROW_SHAKE = 2;
     private static final int ROW_INK = 3;
 
-    private final int[] tape;
-    private int tapeSize;
+    private final Tape tape;
     private int fault;
-    private final Reader reader;
     private final State state;
     private final State spare;
     private final State kept;
@@ -54,10 +52,8 @@ public final class NeedleShop {
     private final Planner planner;
 
     public NeedleShop() {
-        tape = new int[TAPE];
-        tapeSize = 0;
+        tape = new Tape();
         fault = NONE;
-        reader = new Reader(tape);
         state = new State();
         spare = new State();
         kept = new State();
@@ -70,30 +66,30 @@ public final class NeedleShop {
     }
 
     public int feed(int a, int b, int c, int d, int e) {
-        if (tapeSize + 20 > TAPE) {
+        if (tape.size() + 20 > TAPE) {
             return NONE;
         }
-        putBytes(a);
-        putBytes(b);
-        putBytes(c);
-        putBytes(d);
-        putBytes(e);
-        return tapeSize;
+        tape.put(a);
+        tape.put(b);
+        tape.put(c);
+        tape.put(d);
+        tape.put(e);
+        return tape.size();
     }
 
     public boolean end(int n) {
-        if (n < 0 || n > tapeSize) {
+        if (n < 0 || n > tape.size()) {
             return false;
         }
-        tapeSize = n;
+        tape.cut(n);
         return true;
     }
 
     public int shop() throws IllegalArgumentException, UnsupportedOperationException {
-        reader.open(useTapeUp());
+        tape.open();
         spare.copyFrom(state);
-        ShopText.readAll(reader, spare);
-        fault = reader.wrongByte();
+        ShopText.readAll(tape, spare);
+        fault = tape.wrongByte();
         if (fault != NONE) {
             throw new IllegalArgumentException("the text is wrong");
         }
@@ -107,9 +103,9 @@ public final class NeedleShop {
     }
 
     public int law() throws IllegalArgumentException {
-        reader.open(useTapeUp());
-        LawText.readAll(reader, spareLaw);
-        fault = reader.wrongByte();
+        tape.open();
+        LawText.readAll(tape, spareLaw);
+        fault = tape.wrongByte();
         if (fault != NONE) {
             throw new IllegalArgumentException("the text is wrong");
         }
@@ -325,14 +321,14 @@ public final class NeedleShop {
     }
 
     public int rules(boolean least) throws IllegalArgumentException {
-        int size = useTapeUp();
+        int size = tape.useUp();
         needRows(size, KINDS, DEEDS);
         long fitting = Rules.fitting(tape, size);
         return least ? Rules.first(fitting) : Long.bitCount(fitting);
     }
 
     public int ask() throws IllegalArgumentException {
-        int size = useTapeUp();
+        int size = tape.useUp();
         needRows(size, KINDS, DEEDS);
         return Rules.bestQuestion(Rules.fitting(tape, size));
     }
@@ -346,7 +342,7 @@ public final class NeedleShop {
     }
 
     public int berths(int berth) throws IllegalArgumentException {
-        int size = useTapeUp();
+        int size = tape.useUp();
         needBerths(size);
         planner.fillBerths(state, tape, size);
         return berth == NONE ? planner.berthsFilled() : planner.berthPerson(state, tape, size, berth);
@@ -373,12 +369,12 @@ public final class NeedleShop {
     }
 
     public int clash() throws IllegalArgumentException {
-        int size = useTapeUp();
+        int size = tape.useUp();
         needRows(size, state.people, 2);
         int clashing = 0;
         for (int i = 0; i + 1 < size; i += 2) {
-            int person = tape[i];
-            if (state.hasDoneItsDeed(person) != (tape[i + 1] == 1)) {
+            int person = tape.byteAt(i);
+            if (state.hasDoneItsDeed(person) != (tape.byteAt(i + 1) == 1)) {
                 clashing |= 1 << person;
             }
         }
@@ -604,20 +600,6 @@ public final class NeedleShop {
         }
     }
 
-    private void putBytes(int number) {
-        for (int shift = 24; shift >= 0 && tapeSize < TAPE; shift -= 8) {
-            tape[tapeSize] = number >>> shift & 255;
-            tapeSize++;
-        }
-    }
-
-    /** The bytes stay readable until the next feed, so a call can still read what it used up. */
-    private int useTapeUp() {
-        int size = tapeSize;
-        tapeSize = 0;
-        return size;
-    }
-
     private void needPerson(int person) {
         if (person < 0 || person >= state.people) {
             throw new IndexOutOfBoundsException("no such person");
@@ -653,7 +635,7 @@ public final class NeedleShop {
             throw new IllegalArgumentException("the tape is no rows");
         }
         for (int i = 0; i + 1 < size; i += 2) {
-            if (tape[i] >= firsts || tape[i + 1] >= seconds) {
+            if (tape.byteAt(i) >= firsts || tape.byteAt(i + 1) >= seconds) {
                 throw new IllegalArgumentException("the tape has a wrong row");
             }
         }
@@ -664,7 +646,7 @@ public final class NeedleShop {
             throw new IllegalArgumentException("too many berths");
         }
         for (int i = 0; i < size; i++) {
-            if (tape[i] >= DEEDS) {
+            if (tape.byteAt(i) >= DEEDS) {
                 throw new IllegalArgumentException("no such deed");
             }
         }
@@ -980,7 +962,7 @@ public final class NeedleShop {
             int came = 0;
             for (int person = 0; person < people; person++) {
                 if (awaitsDeed(person) && draw() % 100 < law.comes(this, person)) {
-                    bringDeed(law, person);
+                    bringDeed(person, law.makesKnown(this, person));
                     came++;
                 }
             }
@@ -1013,11 +995,14 @@ public final class NeedleShop {
             year = Math.min(year + 1, MOST_YEAR);
         }
 
-        /** The fame is reckoned first: it goes by all as it is ahead of the deed. */
-        void bringDeed(Law law, int person) {
-            fame[person] = Math.min(fame[person] + law.makesKnown(this, person), MOST_FAME);
-            done[person] |= deedBitOf(person);
-            addRow(person, ROW_CAME, tells[under[person]]);
+        void bringDeed(int person, int known) {
+            if (isPlain(person)) {
+                return;
+            }
+            int deed = tells[under[person]];
+            fame[person] = Math.min(fame[person] + known, MOST_FAME);
+            done[person] |= 1 << deed;
+            addRow(person, ROW_CAME, deed);
         }
 
         void shakeOver(int person, int place) {
@@ -1158,16 +1143,20 @@ public final class NeedleShop {
         /** In the order of LawText's words for parts; found and known behind them. */
         private void learn(State state, int person) {
             int kind = state.under[person];
+            int rubbed = state.rubbed[person];
+            if (kind < 0 || kind >= KINDS) {
+                return;
+            }
             facts[0] = person;
             facts[1] = kind;
             facts[2] = state.age[person];
             facts[3] = state.luck[person];
             facts[4] = Integer.bitCount(state.done[person]);
-            facts[5] = Integer.bitCount(state.rubbed[person]);
-            facts[6] = kind < 0 || kind >= KINDS ? 0 : state.tells[kind];
+            facts[5] = Integer.bitCount(rubbed);
+            facts[6] = state.tells[kind];
             facts[7] = state.year % 100;
-            facts[FOUND] = state.isFound(person) ? 1 : 0;
-            facts[KNOWN] = Integer.bitCount(state.fits(person)) == 1 ? 1 : 0;
+            facts[FOUND] = (state.marks[kind] & ~rubbed) == 0 ? 1 : 0;
+            facts[KNOWN] = state.kindsLike(kind, rubbed) == 1 << kind ? 1 : 0;
         }
 
         private int total(int verb) {
@@ -1228,20 +1217,47 @@ public final class NeedleShop {
         }
     }
 
-    /** Reads the tape thing by thing; it always stands at the begin of a thing or at the end. */
-    private static final class Reader {
-        private final int[] text;
+    /** The bytes that were fed, read thing by thing: it then stands at the begin of a thing or at the end. */
+    private static final class Tape {
+        private final int[] bytes;
         private int size;
+        private int length;
         private int at;
         private int wrong;
 
-        Reader(int[] tape) {
-            text = tape;
+        Tape() {
+            bytes = new int[TAPE];
             wrong = NONE;
         }
 
-        void open(int length) {
-            size = Math.min(length, text.length);
+        int size() {
+            return size;
+        }
+
+        void put(int number) {
+            for (int shift = 24; shift >= 0 && size < TAPE; shift -= 8) {
+                bytes[size] = number >>> shift & 255;
+                size++;
+            }
+        }
+
+        void cut(int n) {
+            size = Math.max(0, Math.min(n, size));
+        }
+
+        /** The bytes stay until the next ones come, so a call can still read what it used up. */
+        int useUp() {
+            int had = size;
+            size = 0;
+            return had;
+        }
+
+        int byteAt(int place) {
+            return place < 0 || place >= TAPE ? 0 : bytes[place];
+        }
+
+        void open() {
+            length = useUp();
             wrong = NONE;
             moveTo(0);
         }
@@ -1251,7 +1267,7 @@ public final class NeedleShop {
         }
 
         boolean atEnd() {
-            return at >= size;
+            return at >= length;
         }
 
         /** Goes to the end too, so that all that is still asked for finds nothing. */
@@ -1259,11 +1275,11 @@ public final class NeedleShop {
             if (wrong == NONE) {
                 wrong = at;
             }
-            at = size;
+            at = length;
         }
 
         boolean takeSign(char sign) {
-            if (at >= size || text[at] != sign) {
+            if (at >= length || bytes[at] != sign) {
                 return false;
             }
             moveTo(at + 1);
@@ -1282,7 +1298,7 @@ public final class NeedleShop {
                 return false;
             }
             for (int i = at; i < end; i++) {
-                if (text[i] != word.charAt(i - at)) {
+                if (bytes[i] != word.charAt(i - at)) {
                     return false;
                 }
             }
@@ -1304,7 +1320,7 @@ public final class NeedleShop {
             int end = runEnd('0', '9');
             int value = 0;
             for (int i = at; i < end && i < at + 3; i++) {
-                value = value * 10 + text[i] - '0';
+                value = value * 10 + bytes[i] - '0';
             }
             if (end == at || end - at > 3 || value > most) {
                 fail();
@@ -1316,11 +1332,11 @@ public final class NeedleShop {
 
         int takeKind() {
             int end = runEnd('a', 'z');
-            if (end - at != 1 || text[at] >= 'a' + KINDS) {
+            if (end - at != 1 || bytes[at] >= 'a' + KINDS) {
                 fail();
                 return NONE;
             }
-            int kind = text[at] - 'a';
+            int kind = bytes[at] - 'a';
             moveTo(end);
             return kind;
         }
@@ -1330,8 +1346,8 @@ public final class NeedleShop {
             int figures = 0;
             boolean right = end - at == SIDE;
             for (int i = at; right && i < end; i++) {
-                right = text[i] <= '1';
-                figures |= (text[i] - '0') << i - at;
+                right = bytes[i] <= '1';
+                figures |= (bytes[i] - '0') << i - at;
             }
             if (!right) {
                 fail();
@@ -1343,7 +1359,7 @@ public final class NeedleShop {
 
         private int runEnd(char low, char high) {
             int end = at;
-            while (end < size && text[end] >= low && text[end] <= high) {
+            while (end < length && bytes[end] >= low && bytes[end] <= high) {
                 end++;
             }
             return end;
@@ -1351,7 +1367,7 @@ public final class NeedleShop {
 
         private void moveTo(int place) {
             at = place;
-            while (at < size && text[at] == ' ') {
+            while (at < length && bytes[at] == ' ') {
                 at++;
             }
         }
@@ -1362,7 +1378,7 @@ public final class NeedleShop {
         private ShopText() {
         }
 
-        static void readAll(Reader in, State to) {
+        static void readAll(Tape in, State to) {
             if (in.atEnd()) {
                 return;
             }
@@ -1381,7 +1397,7 @@ public final class NeedleShop {
             }
         }
 
-        private static void readLine(Reader in, State to) {
+        private static void readLine(Tape in, State to) {
             if (in.takeWord("kind")) {
                 readKind(in, to);
             } else if (to.people < PEOPLE && in.takeWord("person")) {
@@ -1397,7 +1413,7 @@ public final class NeedleShop {
             }
         }
 
-        private static void readKind(Reader in, State to) {
+        private static void readKind(Tape in, State to) {
             int kind = in.takeKind();
             in.needWord("marks");
             int marks = 0;
@@ -1418,7 +1434,7 @@ public final class NeedleShop {
             }
         }
 
-        private static void readPerson(Reader in, State to) {
+        private static void readPerson(Tape in, State to) {
             in.needWord("age");
             int age = in.takeNumber(MOST_AGE);
             in.needWord("luck");
@@ -1433,7 +1449,7 @@ public final class NeedleShop {
         private LawText() {
         }
 
-        static void readAll(Reader in, Law to) {
+        static void readAll(Tape in, Law to) {
             to.clear();
             if (in.atEnd()) {
                 return;
@@ -1453,7 +1469,7 @@ public final class NeedleShop {
             }
         }
 
-        private static void readLine(Reader in, Law to) {
+        private static void readLine(Tape in, Law to) {
             int verb = NONE;
             if (in.takeWord("come")) {
                 verb = Law.COME;
@@ -1471,7 +1487,7 @@ public final class NeedleShop {
             to.addLine(verb, amount);
         }
 
-        private static void readAnyOf(Reader in, Law to, int depth) {
+        private static void readAnyOf(Tape in, Law to, int depth) {
             readAllOf(in, to, depth);
             for (int i = 0; i < TAPE && in.takeWord("or"); i++) {
                 readAllOf(in, to, depth);
@@ -1479,7 +1495,7 @@ public final class NeedleShop {
             }
         }
 
-        private static void readAllOf(Reader in, Law to, int depth) {
+        private static void readAllOf(Tape in, Law to, int depth) {
             readAtom(in, to, depth);
             for (int i = 0; i < TAPE && in.takeWord("and"); i++) {
                 readAtom(in, to, depth);
@@ -1488,7 +1504,7 @@ public final class NeedleShop {
         }
 
         /** A seventh "not" or "(" is not taken, and so found wrong where it begins. */
-        private static void readAtom(Reader in, Law to, int depth) {
+        private static void readAtom(Tape in, Law to, int depth) {
             if (depth < DEEPEST_NESTING && in.takeWord("not")) {
                 readAtom(in, to, depth + 1);
                 to.addStep(Law.NOT);
@@ -1500,42 +1516,35 @@ public final class NeedleShop {
             } else if (in.takeWord("known")) {
                 to.addStep(Law.KNOWN);
             } else {
-                readComparison(in, to);
+                readSum(in, to);
+                boolean less = in.takeSign('<');
+                if (!less) {
+                    in.needSign('>');
+                }
+                readSum(in, to);
+                to.addStep(less ? Law.LESS : Law.MORE);
             }
         }
 
-        private static void readComparison(Reader in, Law to) {
-            readSum(in, to);
-            if (in.takeSign('<')) {
-                readSum(in, to);
-                to.addStep(Law.LESS);
-            } else {
-                in.needSign('>');
-                readSum(in, to);
-                to.addStep(Law.MORE);
-            }
-        }
-
-        private static void readSum(Reader in, Law to) {
-            readPart(in, to);
+        private static void readSum(Tape in, Law to) {
+            to.addStep(readPart(in));
             for (int i = 0; i < TAPE && in.takeSign('+'); i++) {
-                readPart(in, to);
+                to.addStep(readPart(in));
                 to.addStep(Law.ADD);
             }
         }
 
-        private static void readPart(Reader in, Law to) {
+        private static int readPart(Tape in) {
             if (in.atNumber()) {
-                to.addStep(Law.NUMBER + in.takeNumber(999));
-                return;
+                return Law.NUMBER + in.takeNumber(999);
             }
             for (int part = 0; part < Law.PARTS; part++) {
                 if (in.takeWord(partWord(part))) {
-                    to.addStep(part);
-                    return;
+                    return part;
                 }
             }
             in.fail();
+            return 0;
         }
 
         private static String partWord(int part) {
@@ -1723,12 +1732,12 @@ public final class NeedleShop {
         private Rules() {
         }
 
-        static long fitting(int[] rows, int size) {
+        static long fitting(Tape rows, int size) {
             long fitting = 0;
             for (int pair = 0; pair < PAIRS; pair++) {
                 boolean fits = true;
                 for (int i = 0; fits && i + 1 < size; i += 2) {
-                    fits = deedBy(pair, rows[i]) == rows[i + 1];
+                    fits = deedBy(pair, rows.byteAt(i)) == rows.byteAt(i + 1);
                 }
                 if (fits) {
                     fitting |= 1L << pair;
@@ -1837,7 +1846,7 @@ public final class NeedleShop {
         }
 
         /** The row is by the berth that is next and the people who are taken. */
-        void fillBerths(State state, int[] deeds, int berths) {
+        void fillBerths(State state, Tape deeds, int berths) {
             for (int taken = 0; taken < GROUPS; taken++) {
                 best[GROUPS * berths + taken] = 0;
             }
@@ -1845,7 +1854,7 @@ public final class NeedleShop {
                 for (int taken = 0; taken <= state.everybody(); taken++) {
                     int most = best[GROUPS * (berth + 1) + taken];
                     for (int person = 0; person < state.people; person++) {
-                        most = Math.max(most, filledWith(state, deeds[berth], berth, taken, person));
+                        most = Math.max(most, filledWith(state, deeds.byteAt(berth), berth, taken, person));
                     }
                     best[GROUPS * berth + taken] = most;
                 }
@@ -1856,10 +1865,10 @@ public final class NeedleShop {
             return best[0];
         }
 
-        int berthPerson(State state, int[] deeds, int berths, int wanted) {
+        int berthPerson(State state, Tape deeds, int berths, int wanted) {
             int taken = 0;
             for (int berth = 0; berth < berths; berth++) {
-                int person = firstForBerth(state, deeds[berth], berth, taken);
+                int person = firstForBerth(state, deeds.byteAt(berth), berth, taken);
                 if (berth == wanted) {
                     return person;
                 }

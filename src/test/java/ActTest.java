@@ -9,6 +9,7 @@ public final class ActTest {
         hands();
         logLimits();
         trials();
+        spans();
         undoing();
         everyActIsUndone();
         imaging();
@@ -196,25 +197,60 @@ public final class ActTest {
         Check.due("what came", came + 1, deeds);
         x.undo();
         Check.due("seed is undone too", x.seed(5), 77);
-        int least = 99;
-        int most = -1;
-        for (int seed = 1; seed <= 6; seed++) {
-            NeedleShop y = Check.lawful(Check.shop(people), law);
-            y.does(3, 3);
-            y.seed(seed);
-            y.years(9);
-            least = Math.min(least, y.count(6));
-            most = Math.max(most, y.count(6));
-        }
-        Check.due("span least", x.span(9, false), least);
-        Check.due("span most", x.span(9, true), most);
-        Check.due("span parts", least < most, true);
         Check.due("span of none", x.span(0, false) + x.span(0, true), 2);
         Check.due("seed stays", x.seed(1), 5);
         Check.due("trial of 61", Check.of(() -> x.trial(61, false)), Check.ARGUMENT);
         Check.due("trial of -1", Check.of(() -> x.trial(-1, true)), Check.ARGUMENT);
         Check.due("span of 61", Check.of(() -> x.span(61, false)), Check.ARGUMENT);
         Check.due("span of -1", Check.of(() -> x.span(-1, true)), Check.ARGUMENT);
+    }
+
+    /** Each span against years lived by shops of their own; some must show a seed fewer or more. */
+    private static void spans() {
+        boolean[] shows = new boolean[8];
+        for (int come = 0; come < 40; come += 3) {
+            for (int n = 1; n <= 10; n += 3) {
+                int[] deeds = new int[8];
+                for (int seed = 1; seed <= 7; seed++) {
+                    NeedleShop y = crowd(come);
+                    y.seed(seed);
+                    y.years(n);
+                    deeds[seed] = y.count(6);
+                }
+                int least = 99;
+                int most = -1;
+                for (int seed = 1; seed <= 6; seed++) {
+                    least = Math.min(least, deeds[seed]);
+                    most = Math.max(most, deeds[seed]);
+                    shows[seed] |= alone(deeds, seed);
+                }
+                shows[7] |= deeds[7] < least || deeds[7] > most;
+                Check.due("span least", crowd(come).span(n, false), least);
+                Check.due("span most", crowd(come).span(n, true), most);
+            }
+        }
+        for (int seed = 1; seed <= 7; seed++) {
+            Check.due("seed " + seed + " shows somewhere", shows[seed], true);
+        }
+    }
+
+    private static NeedleShop crowd(int come) {
+        NeedleShop y = Check.lawful(Check.shop("person age 30 luck 4 under a;person age 40 luck 6 under b;"
+            + "person age 20 luck 1 under c;person age 9 luck 0;person age 1 luck 0 under h;person age 70 luck 0 under a;shake 30"),
+            "come " + come + ";come 5 if rubbed>1;stay 2 if known");
+        y.does(3, 3);
+        return y;
+    }
+
+    /** Whether that seed of 1 to 6 has alone the least or the greatest number. */
+    private static boolean alone(int[] deeds, int seed) {
+        boolean less = true;
+        boolean more = true;
+        for (int other = 1; other <= 6; other++) {
+            less &= other == seed || deeds[seed] < deeds[other];
+            more &= other == seed || deeds[seed] > deeds[other];
+        }
+        return less || more;
     }
 
     private static void undoing() {

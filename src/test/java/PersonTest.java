@@ -90,6 +90,9 @@ public final class PersonTest {
         Check.due("age ends at 99", x.ahead(1, 60, 0), 99);
         Check.due("ahead by none", x.ahead(0, 0, 0), 20);
         Check.due("nothing stays", x.count(3) * 1000 + x.count(6), 90000);
+        x.does(1, 6);
+        Check.due("what was done stays ahead", x.ahead(1, 1, 1), 66);
+        x.undo();
         x.does(0, 0);
         Check.due("sure of what is done", x.person(0, 9), 0);
         NeedleShop y = Check.lawful(Check.shop("person age 30 luck 0 under a"), "come 91 if age > 89");

@@ -109,6 +109,11 @@ public final class PlanTest {
         Check.due("below", berth(x, -2, 0, 0, 0, 5), -1);
         Check.due("far beyond", berth(x, Integer.MAX_VALUE, 0), -1);
         Check.due("far below", berth(x, Integer.MIN_VALUE, 0), -1);
+        NeedleShop y = Check.shop("person age 1 luck 1 under a;person age 1 luck 1 under a;person age 1 luck 1 under a;"
+            + "person age 1 luck 1 under a");
+        for (int b = 0; b < 4; b++) {
+            Check.due("each another one", berth(y, b, 0, 0, 0, 0), b);
+        }
         Check.due("six", berth(x, -1, 0, 1, 2, 3, 4, 5), 3);
         Check.due("seven", berth(x, -1, 0, 1, 2, 3, 4, 5, 6), Check.ARGUMENT);
         Check.due("no deed", berth(x, 9, 8), Check.ARGUMENT);

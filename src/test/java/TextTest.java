@@ -152,6 +152,7 @@ public final class TextTest {
         Check.wrongShop(x, A + " tell 1", 33);
         Check.wrongShop(x, A + " tells", 38);
         Check.wrongShop(x, A + " tells 07", -1);
+        Check.wrongShop(x, A + " tells 8", 39);
         Check.wrongShop(x, A + " tells 1 tells 2", 41);
         Check.wrongShop(x, A + " holds b tells 2", 41);
         Check.wrongShop(x, A + " holds", 38);
@@ -205,10 +206,18 @@ public final class TextTest {
         Check.due("known, not found", x.person(0, 6), 5);
         x.rub(0, 1);
         Check.due("known and found", x.person(0, 6), 7);
+        x.told(0, 5);
+        Check.due("no part goes by the kind a otherwise", partOfKindA(), 12);
         x.does(0, 1);
         x.does(0, 2);
         Check.wrongLaw(x, "come 1 if done>1 and done<3", -1);
         Check.due("done", x.person(0, 6), 1);
+    }
+
+    private static int partOfKindA() {
+        NeedleShop x = Check.shop("kind a marks 1000 0000 0000 0000 tells 5;person age 0 luck 0 under a");
+        Check.lawful(x, "come 1 if deed<6;come 2 if deed>5;come 4 if kind+deed>4;come 7 if kind<1 and deed>4");
+        return x.person(0, 6);
     }
 
     private static void lawFaults() {
