@@ -17,6 +17,8 @@ public final class KindTest {
     private static void questions() {
         NeedleShop x = Check.shop("kind a marks 1000 0000 0000 0000 tells 3;kind b marks 1000 0000 0000 0000;"
             + "person age 1 luck 1 under b;person age 1 luck 1;person age 1 luck 1 under b");
+        Check.due("one mark is one piece", x.kind(0, 5), 1);
+        Check.due("one mark is the largest piece", x.kind(0, 6), 1);
         Check.due("same of a", x.kind(0, 4), 3);
         Check.due("same of c", x.kind(2, 4), 252);
         Check.due("bearers", x.kind(1, 10), 5);

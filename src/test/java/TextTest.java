@@ -191,6 +191,7 @@ public final class TextTest {
             Check.wrongLaw(x, "come 7 if " + c + ";come 3", -1);
             Check.due("holds not: " + c, x.person(0, 6), 3);
         }
+        nestedToTheBrim(x);
         Check.wrongLaw(x, "come 50;come 40;come 30;stay 10;fame 3", -1);
         Check.due("lines", x.count(2), 5);
         Check.due("100 at most", x.person(0, 6), 100);
@@ -212,6 +213,19 @@ public final class TextTest {
         x.does(0, 2);
         Check.wrongLaw(x, "come 1 if done>1 and done<3", -1);
         Check.due("done", x.person(0, 6), 1);
+    }
+
+    /** Each level has an "or" and an "and" waiting, and the innermost a sum: no more can wait at once. */
+    private static void nestedToTheBrim(NeedleShop x) {
+        for (int sum = 2; sum <= 3; sum++) {
+            StringBuilder law = new StringBuilder("come 7 if ");
+            for (int level = 0; level < 6; level++) {
+                law.append("1>2 or 1<2 and (");
+            }
+            law.append("1>2 or 1<2 and 0+1+1+1>").append(sum).append("))))))").append(";come 3");
+            Check.wrongLaw(x, law.toString(), -1);
+            Check.due("nested to the brim", x.person(0, 6), sum == 2 ? 10 : 3);
+        }
     }
 
     private static int partOfKindA() {
