@@ -323,14 +323,14 @@ public final class NeedleShop {
     public int rules(boolean least) throws IllegalArgumentException {
         int size = tape.useUp();
         needRows(size, KINDS, DEEDS);
-        long fitting = Rules.fitting(tape, size);
+        long fitting = Rules.fittingRows(tape, size);
         return least ? Rules.first(fitting) : Long.bitCount(fitting);
     }
 
     public int ask() throws IllegalArgumentException {
         int size = tape.useUp();
         needRows(size, KINDS, DEEDS);
-        return Rules.bestQuestion(Rules.fitting(tape, size));
+        return Rules.bestQuestion(Rules.fittingRows(tape, size));
     }
 
     public int now() {
@@ -880,17 +880,17 @@ public final class NeedleShop {
         }
 
         int deedsOfAll() {
-            int sum = 0;
-            for (int person = 0; person < people; person++) {
-                sum += Integer.bitCount(done[person]);
-            }
-            return sum;
+            return membersOfAll(done);
         }
 
         int rubbedOfAll() {
+            return membersOfAll(rubbed);
+        }
+
+        private int membersOfAll(int[] sets) {
             int sum = 0;
-            for (int person = 0; person < people; person++) {
-                sum += Integer.bitCount(rubbed[person]);
+            for (int person = 0; person < people && person < sets.length; person++) {
+                sum += Integer.bitCount(sets[person]);
             }
             return sum;
         }
@@ -1266,10 +1266,6 @@ public final class NeedleShop {
             return wrong;
         }
 
-        boolean atEnd() {
-            return at >= length;
-        }
-
         /** Goes to the end too, so that all that is still asked for finds nothing. */
         void fail() {
             if (wrong == NONE) {
@@ -1290,6 +1286,16 @@ public final class NeedleShop {
             if (!takeSign(sign)) {
                 fail();
             }
+        }
+
+        /** Whether that line comes; one too many, and what is no line's begin, is wrong where it begins. */
+        boolean takeLine(int line, int most) {
+            boolean comes = line == 0 ? at < length : takeSign(';');
+            if (comes ? line >= most : at < length) {
+                fail();
+                return false;
+            }
+            return comes;
         }
 
         boolean takeWord(String word) {
@@ -1379,21 +1385,8 @@ public final class NeedleShop {
         }
 
         static void readAll(Tape in, State to) {
-            if (in.atEnd()) {
-                return;
-            }
-            for (int line = 0; line <= SHOP_LINES; line++) {
-                if (line < SHOP_LINES) {
-                    readLine(in, to);
-                } else {
-                    in.fail();
-                }
-                if (!in.takeSign(';')) {
-                    break;
-                }
-            }
-            if (!in.atEnd()) {
-                in.fail();
+            for (int line = 0; line <= SHOP_LINES && in.takeLine(line, SHOP_LINES); line++) {
+                readLine(in, to);
             }
         }
 
@@ -1451,21 +1444,8 @@ public final class NeedleShop {
 
         static void readAll(Tape in, Law to) {
             to.clear();
-            if (in.atEnd()) {
-                return;
-            }
-            for (int line = 0; line <= LAW_LINES; line++) {
-                if (line < LAW_LINES) {
-                    readLine(in, to);
-                } else {
-                    in.fail();
-                }
-                if (!in.takeSign(';')) {
-                    break;
-                }
-            }
-            if (!in.atEnd()) {
-                in.fail();
+            for (int line = 0; line <= LAW_LINES && in.takeLine(line, LAW_LINES); line++) {
+                readLine(in, to);
             }
         }
 
@@ -1728,34 +1708,32 @@ public final class NeedleShop {
     /** Pairs A and B by which deeds may go, as the bits 8 times A and B of a long. */
     private static final class Rules {
         private static final int PAIRS = 64;
+        private static final long ALL = -1L;
 
         private Rules() {
         }
 
-        static long fitting(Tape rows, int size) {
-            long fitting = 0;
-            for (int pair = 0; pair < PAIRS; pair++) {
-                boolean fits = true;
-                for (int i = 0; fits && i + 1 < size; i += 2) {
-                    fits = deedBy(pair, rows.byteAt(i)) == rows.byteAt(i + 1);
-                }
-                if (fits) {
-                    fitting |= 1L << pair;
-                }
+        /** Those of the pairs by which the kind tells the deed. */
+        static long narrowed(long fitting, int kind, int deed) {
+            long left = 0;
+            for (int a = 0; a < 8; a++) {
+                left |= fitting & 1L << 8 * a + (deed - a * kind & 7);
+            }
+            return left;
+        }
+
+        static long fittingRows(Tape rows, int size) {
+            long fitting = ALL;
+            for (int i = 0; i + 1 < size; i += 2) {
+                fitting = narrowed(fitting, rows.byteAt(i), rows.byteAt(i + 1));
             }
             return fitting;
         }
 
         static long fittingKinds(State state) {
-            long fitting = 0;
-            for (int pair = 0; pair < PAIRS; pair++) {
-                boolean fits = true;
-                for (int kind = 0; fits && kind < KINDS; kind++) {
-                    fits = deedBy(pair, kind) == state.tells[kind];
-                }
-                if (fits) {
-                    fitting |= 1L << pair;
-                }
+            long fitting = ALL;
+            for (int kind = 0; kind < KINDS; kind++) {
+                fitting = narrowed(fitting, kind, state.tells[kind]);
             }
             return fitting;
         }
@@ -1788,18 +1766,9 @@ public final class NeedleShop {
         private static int greatestPart(long fitting, int kind) {
             int greatest = 0;
             for (int deed = 0; deed < DEEDS; deed++) {
-                int part = 0;
-                for (int a = 0; a < 8; a++) {
-                    int b = deed - a * kind & 7;
-                    part += (int) (fitting >>> 8 * a + b & 1);
-                }
-                greatest = Math.max(greatest, part);
+                greatest = Math.max(greatest, Long.bitCount(narrowed(fitting, kind, deed)));
             }
             return greatest;
-        }
-
-        private static int deedBy(int pair, int kind) {
-            return (pair / 8) * kind + pair % 8 & 7;
         }
     }
 
