@@ -288,29 +288,6 @@ public final class ActTest {
         Check.due("the tape is not undone", x.end(4), true);
     }
 
-    private static String looks(NeedleShop x) {
-        StringBuilder all = new StringBuilder();
-        for (int what = 0; what < 10; what++) {
-            all.append(x.count(what)).append(' ');
-        }
-        for (int k = 0; k < 8; k++) {
-            all.append(x.kind(k, 0)).append(' ').append(x.kind(k, 1)).append(' ').append(x.kind(k, 2)).append(' ');
-        }
-        for (int p = 0; p < x.count(0); p++) {
-            for (int what = 0; what < 7; what++) {
-                all.append(x.person(p, what)).append(' ');
-            }
-        }
-        for (int ago = 0; ago < x.count(9); ago++) {
-            for (int what = 0; what < 4; what++) {
-                all.append(x.log(ago, what)).append(' ');
-            }
-        }
-        int seed = x.seed(0);
-        x.seed(seed);
-        return all.append(seed).toString();
-    }
-
     private static void act(NeedleShop x, int which) {
         switch (which) {
             case 0: x.years(30); break;
@@ -332,11 +309,11 @@ public final class ActTest {
         x.wash(0);
         x.rub(2, 0);
         for (int which = 0; which < 9; which++) {
-            String before = looks(x);
+            String before = Check.looks(x);
             act(x, which);
-            Check.due("act " + which + " changes", !looks(x).equals(before), true);
+            Check.due("act " + which + " changes", !Check.looks(x).equals(before), true);
             Check.due("act " + which + " is undone", x.undo(), true);
-            Check.due("all as before " + which, looks(x).equals(before), true);
+            Check.due("all as before " + which, Check.looks(x).equals(before), true);
         }
         Check.due("the first acts are still there", x.count(10), 3);
         x.told(0, x.kind(0, 1));
@@ -344,14 +321,14 @@ public final class ActTest {
         x.luck(0, 4);
         x.wash(1);
         Check.due("acts that change nothing are acts", x.count(10), 7);
-        String before = looks(x);
+        String before = Check.looks(x);
         for (int which = 0; which < 9; which++) {
             act(x, which);
         }
         for (int which = 0; which < 9; which++) {
             x.undo();
         }
-        Check.due("all undone in turn", looks(x).equals(before), true);
+        Check.due("all undone in turn", Check.looks(x).equals(before), true);
         Check.due("twelve less nine", x.count(10), 3);
     }
 
@@ -363,7 +340,7 @@ public final class ActTest {
         Check.due("a failed back forgets nothing", x.back() || x.count(10) != 1, false);
         x.image();
         Check.due("keeping forgets nothing", x.count(10), 1);
-        String before = looks(x);
+        String before = Check.looks(x);
         for (int which = 0; which < 9; which++) {
             act(x, which);
         }
@@ -373,28 +350,28 @@ public final class ActTest {
         x.fill(2);
         Check.tape(x, 1, 2);
         Check.due("back", x.back(), true);
-        Check.due("all as kept", looks(x).equals(before), true);
+        Check.due("all as kept", Check.looks(x).equals(before), true);
         Check.due("lines as kept", x.count(2), 2);
         Check.due("none are remembered", x.undo(), false);
         Check.due("the tape is not gone back", x.end(2), true);
         x.fill(9);
         x.undo();
-        Check.due("undone behind a back", looks(x).equals(before), true);
+        Check.due("undone behind a back", Check.looks(x).equals(before), true);
         x.years(9);
         Check.due("back once more", x.back(), true);
-        Check.due("the image stays", looks(x).equals(before), true);
+        Check.due("the image stays", Check.looks(x).equals(before), true);
         x.years(1);
         x.image();
-        String later = looks(x);
+        String later = Check.looks(x);
         x.undo();
-        Check.due("undo leaves the image", looks(x).equals(before) && x.back() && looks(x).equals(later), true);
+        Check.due("undo leaves the image", Check.looks(x).equals(before) && x.back() && Check.looks(x).equals(later), true);
     }
 
     private static void wrongs() {
         NeedleShop x = Check.shop("person age 30 luck 4 under a;person age 9 luck 1;purse 9");
         x.fill(1);
         x.undo();
-        String before = looks(x);
+        String before = Check.looks(x);
         int[] none = {-1, 2, 6, Integer.MIN_VALUE, Integer.MAX_VALUE};
         for (int p : none) {
             Check.due("rub", Check.of(() -> x.rub(p, 0) ? 1 : 0), Check.INDEX);
@@ -421,7 +398,7 @@ public final class ActTest {
         Check.due("fill 0", Check.of(() -> x.fill(0)), Check.ARGUMENT);
         Check.due("years 0", Check.of(() -> x.years(0)), Check.ARGUMENT);
         Check.due("ink without money", Check.of(() -> x.ink(1, 0)), Check.STATE);
-        Check.due("nothing changed", looks(x).equals(before), true);
+        Check.due("nothing changed", Check.looks(x).equals(before), true);
         Check.due("nothing remembered", x.count(10), 0);
     }
 }

@@ -1,3 +1,6 @@
+import java.io.IOException;
+import java.nio.file.Files;
+import java.nio.file.Path;
 import java.util.NoSuchElementException;
 
 /** What the tests share: telling the tape, comparing answers, and the exit code. */
@@ -12,8 +15,12 @@ final class Check {
     static final int UNSUPPORTED = -104;
     static final int ELEMENT = -105;
 
+    private static final Path DOCUMENT = Path.of("../shared/DOC.md");
+
     private static int asked;
     private static int wrong;
+    private static String document;
+    private static String sentence = "";
 
     private Check() {
     }
@@ -22,7 +29,23 @@ final class Check {
         asked++;
         if (got != want) {
             wrong++;
-            System.out.println(what + " answered " + got + ", due is " + want);
+            System.out.println(sentence + what + " answered " + got + ", due is " + want);
+        }
+    }
+
+    /** What is asked from here on is asked for these words, which the document must have. */
+    static void says(String words) {
+        sentence = "";
+        due("the document says '" + words + "'", document().contains(words), true);
+        sentence = "[" + words + "] ";
+    }
+
+    private static String document() {
+        try {
+            document = document == null ? Files.readString(DOCUMENT) : document;
+            return document;
+        } catch (IOException e) {
+            throw new IllegalStateException("no document at " + DOCUMENT, e);
         }
     }
 
@@ -103,6 +126,35 @@ final class Check {
         tape(shop, text);
         due("law of '" + text + "'", of(shop::law), at < 0 ? of(() -> shop.count(2)) : ARGUMENT);
         due("fault of '" + text + "'", shop.fault(), at);
+    }
+
+    /** All that a shop tells of itself and no call changes by being asked, in one text. */
+    static String looks(NeedleShop x) {
+        StringBuilder all = new StringBuilder();
+        for (int what = 0; what < 10; what++) {
+            all.append(x.count(what)).append(' ');
+        }
+        for (int k = 0; k < 8; k++) {
+            all.append(x.kind(k, 0)).append(' ').append(x.kind(k, 1)).append(' ').append(x.kind(k, 2)).append(' ');
+        }
+        for (int p = 0; p < x.count(0); p++) {
+            for (int what = 0; what < 7; what++) {
+                all.append(x.person(p, what)).append(' ');
+            }
+        }
+        for (int ago = 0; ago < x.count(9); ago++) {
+            for (int what = 0; what < 4; what++) {
+                all.append(x.log(ago, what)).append(' ');
+            }
+        }
+        int seed = x.seed(0);
+        x.seed(seed);
+        return all.append(seed).toString();
+    }
+
+    /** Whether the tape has so many bytes; it has these still when it was asked. */
+    static boolean tapeHas(NeedleShop x, int n) {
+        return !x.end(n + 1) && x.end(n);
     }
 
     static void finish(String name) {
