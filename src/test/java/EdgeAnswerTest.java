@@ -39,6 +39,7 @@ public final class EdgeAnswerTest {
         trials();
         led();
         lawFacts();
+        oneBehindAnother();
         Check.finish("EdgeAnswerTest");
     }
 
@@ -394,8 +395,11 @@ public final class EdgeAnswerTest {
                 x.told(k, pair / 8 * k + pair % 8 & 7);
             }
             Check.due("now", x.now(), pair);
-            x.told(7, x.kind(7, 1) + 1 & 7);
-            Check.due("one apart", x.now(), -1);
+            for (int k = 0; k < 8; k++) {
+                x.told(k, x.kind(k, 1) + 1 & 7);
+                Check.due("apart by kind " + k, x.now(), -1);
+                x.undo();
+            }
         }
     }
 
@@ -561,13 +565,23 @@ public final class EdgeAnswerTest {
         for (int p = 0; p < 6; p++) {
             Check.due("each with its next", most.pairs(p), with[p]);
         }
+        NeedleShop middle = with(new NeedleShop(), people(5, ""));
+        for (int deed = 0; deed < 8; deed++) {
+            middle.does(deed < 4 ? 0 : 4, deed);
+            middle.does(deed < 4 ? 2 : 3, deed);
+        }
+        Check.due("one in the middle is left", middle.pairs(-1), 16);
+        int[] two = {3, -1, 4, 0, 2};
+        for (int p = 0; p < 5; p++) {
+            Check.due("with two of four", middle.pairs(p), two[p]);
+        }
         Check.says("its KIND, if it is not PLAIN, TELLS it, or it has DONE it");
-        NeedleShop two = with(new NeedleShop(), people(1, " under a") + ";" + people(1, ""));
-        Check.due("told by one", two.pairs(-1), 1);
-        two.does(1, 0);
-        Check.due("done by the other", two.pairs(-1), 0);
-        two.does(1, 1);
-        Check.due("one more", two.pairs(-1) * 10 + two.pairs(0), 11);
+        NeedleShop both = with(new NeedleShop(), people(1, " under a") + ";" + people(1, ""));
+        Check.due("told by one", both.pairs(-1), 1);
+        both.does(1, 0);
+        Check.due("done by the other", both.pairs(-1), 0);
+        both.does(1, 1);
+        Check.due("one more", both.pairs(-1) * 10 + both.pairs(0), 11);
     }
 
     private static void kin() {
@@ -766,6 +780,8 @@ public final class EdgeAnswerTest {
             Check.due("found behind " + i, comes(y, "found"), due[i][0]);
             Check.due("known behind " + i, comes(y, "known"), due[i][1]);
             Check.due("not found behind " + i, comes(y, "not found"), 1 - due[i][0]);
+            Check.due("not known behind " + i, comes(y, "not known"), 1 - due[i][1]);
+            Check.due("both behind " + i, comes(y, "known and found and 1<2"), due[i][0] & due[i][1]);
             if (i < 2) {
                 y.rub(0, rub[i]);
             }
@@ -774,5 +790,26 @@ public final class EdgeAnswerTest {
         Check.due("without marks it is found", comes(bare, "found"), 1);
         Check.due("but six others fit", comes(bare, "known"), 0);
         Check.due("999 and more", comes(bare, "999+999+999>998+999+999"), 1);
+    }
+
+    /** What a question leaves behind in the rows that it uses must not show in the next one's answer. */
+    private static void oneBehindAnother() {
+        Check.says("How the state is held inside the object is free");
+        for (int n = 0; n <= 6; n++) {
+            NeedleShop x = n == 0 ? kinds(1, 2, 4, 8, 16, 32, 64, 128) : with(kinds(1, 2, 4, 8, 16, 32, 64, 128), people(n, ""));
+            for (int p = 0; p < n; p++) {
+                x.does(p, p % 2);
+            }
+            for (int berths = 0; berths <= 6; berths++) {
+                for (int k = 0; k < 8; k++) {
+                    Check.due("few", x.kind(k, 3), 1 << k);
+                    Check.due("pairs behind few", x.pairs(-1), n / 2 * 2);
+                    Check.due("few", x.kind(k, 3), 1 << k);
+                    Check.due("berths behind few", berth(x, -1, new int[berths]), Math.min(berths, (n + 1) / 2));
+                    Check.due("pairs behind berths", x.pairs(-1), n / 2 * 2);
+                }
+                Check.due("crew behind all", x.crew(0) * 10 + x.crew(1), -1);
+            }
+        }
     }
 }

@@ -22,6 +22,7 @@ public final class EdgeTextTest {
         emptyTexts();
         moreMustCome();
         cannotStandThere();
+        leftOut();
         nesting();
         nothingStays();
         faults();
@@ -447,6 +448,33 @@ public final class EdgeTextTest {
                 Check.wrongLaw(new NeedleShop(), ahead + " " + wrong + " ; come x", ahead.length() + 1);
             }
         }
+    }
+
+    /** Where the text is wrong when a thing is left out: at what comes in its place, but for these things. */
+    private static void leftOut() {
+        for (int i = 0; i < SHOP.length; i++) {
+            // Another row's figures come in the place of a row's, until the fourth is missing.
+            int wrong = i >= 3 && i <= 6 ? 7 : i + 1;
+            Check.wrongShop(new NeedleShop(), without(SHOP, i), joined(SHOP, wrong).length() + (wrong < SHOP.length ? 0 : -1)
+                - SHOP[i].length());
+        }
+        for (int i = 0; i < LAW.length; i++) {
+            // Without "not" the law is right; a bracket that is missing shows where the other one stands or must.
+            int wrong = LAW[i].equals("(") ? 14 : LAW[i].equals(")") ? 21 : i + 1;
+            Check.wrongLaw(new NeedleShop(), without(LAW, i), LAW[i].equals("not") ? -1
+                : joined(LAW, wrong).length() + (wrong < LAW.length ? 0 : -1) - LAW[i].length());
+        }
+        Check.wrongLaw(new NeedleShop(), "5", 0);
+        Check.wrongLaw(new NeedleShop(), "come 1;5 if found", 7);
+        Check.wrongShop(new NeedleShop(), "5", 0);
+    }
+
+    private static String without(String[] things, int left) {
+        String[] rest = new String[things.length - 1];
+        for (int i = 0; i < rest.length; i++) {
+            rest[i] = things[i < left ? i : i + 1];
+        }
+        return joined(rest, rest.length);
     }
 
     private static void nesting() {
