@@ -320,7 +320,8 @@ public final class ActTest {
         x.hold(0, -1);
         x.luck(0, 4);
         x.wash(1);
-        Check.due("acts that change nothing are acts", x.count(10), 7);
+        Check.due("nothing is left to be washed", x.wash(1), 0);
+        Check.due("acts that change nothing are acts", x.count(10), 8);
         String before = Check.looks(x);
         for (int which = 0; which < 9; which++) {
             act(x, which);
